@@ -73,11 +73,30 @@ public final class PromiseTest {
         refused(x, call, asked, FuguePlan.FULL, 2);
     }
 
-    /** A call told S: its answer, and that a STATE more can be gone back to. */
+    /** A call told S: its answer, and that a STATE more can be gone back to, with all as it was; then it is done again. */
     private static void leavesState(FuguePlan x, String call, ToIntFunction<FuguePlan> asked, int want) {
         int states = x.told(10);
+        long before = onPaper(x);
         due(call, asked.applyAsInt(x), want);
         due(call + ", then told(10)", x.told(10), Math.min(5, states + 1));
+        due(call + ", then back()", x.back(), Math.min(4, states));
+        due(call + ", then all is as it was", onPaper(x), before);
+        due(call + " again", asked.applyAsInt(x), want);
+    }
+
+    /** A number that tells all that a STATE holds. */
+    private static long onPaper(FuguePlan x) {
+        long h = x.told(4);
+        for (int i = 5; i < 10; i++) h = 31 * h + x.told(i);
+        for (int l = 0; l < 4; l++) {
+            h = 31 * h + x.line(l, 1);
+            for (int i = 0; i < x.line(l, 1); i++) h = 31 * (31 * h + x.noteOf(l, i, 0)) + x.noteOf(l, i, 1);
+        }
+        for (int e = 0; e < x.told(4); e++) {
+            for (int what = 0; what < 6; what++) h = 31 * h + x.entry(e, what);
+        }
+        for (int i = -1; i < x.told(9); i++) h = 31 * h + x.path(i);
+        return h;
     }
 
     private static FuguePlan withLine(int... stepsAndTicks) {
@@ -126,6 +145,10 @@ public final class PromiseTest {
         for (int i = 2; i < 10; i++) due("note(3, 5, 1)", x.note(3, 5, 1), i);
         full(x, "an eleventh", p -> p.note(3, 5, 1));
         bad(x, "BAD ahead of FULL", p -> p.note(3, 28, 1));
+        due("the last STEP", x.noteOf(3, 9, 0), 5);
+        due("the TICK that it sounds from", x.noteOf(3, 9, 2), 12);
+        leavesState(x, "the last but one goes of ten", p -> p.drop(3, 8), 9);
+        due("the tenth", x.note(3, 5, 1), 9);
         x.enters(3, 0, 0, 0, 0);
         no(x, "NO ahead of FULL", p -> p.note(3, 5, 1));
         bad(x, "BAD ahead of NO", p -> p.note(3, 5, 9));
@@ -157,13 +180,15 @@ public final class PromiseTest {
         FuguePlan x = withLine(1, 1, 2, 2);
         bad(x, "empties(-1)", p -> p.empties(-1));
         bad(x, "empties(4)", p -> p.empties(4));
+        x.note(1, 9, 3);
         leavesState(x, "empties(0)", p -> p.empties(0), 2);
+        due("another LINE stays", x.line(1, 0), 3);
         leavesState(x, "empties(0), nothing changes", p -> p.empties(0), 0);
         due("NOTES", x.line(0, 1), 0);
         x.note(0, 1, 1);
         x.enters(0, 0, 0, 0, 0);
         no(x, "empties(0)", p -> p.empties(0));
-        due("empties(1)", x.empties(1), 0);
+        due("empties(1)", x.empties(1), 1);
     }
 
     private static void promise05Draw() {
@@ -238,6 +263,10 @@ public final class PromiseTest {
             due("line(0, " + what + ")", x.line(0, what), want[what]);
             due("line(1, " + what + ")", x.line(1, what), empty[what]);
         }
+        notes(x, 2, 1, 1, 2, 1);
+        due("the first is the least", x.line(2, 2), 1);
+        notes(x, 3, 2, 1, 1, 1);
+        due("the first is the greatest", x.line(3, 3), 2);
         x.enters(0, 0, 0, 0, 0);
         x.enters(0, 1, 0, 6, 0);
         due("ENTRIES have it", x.line(0, 4), 2);
@@ -284,6 +313,9 @@ public final class PromiseTest {
         for (int[] r : refused) bad(x, "enters BAD", p -> p.enters(r[0], r[1], r[2], r[3], r[4]));
         for (int e = 6; e < 10; e++) due("enters", x.enters(0, 0, 0, 4 * e, 2), e);
         full(x, "an eleventh", p -> p.enters(0, 0, 0, 100, 2));
+        due("the tenth", x.entry(9, 2), 36);
+        leavesState(x, "the first goes of ten", p -> p.leaves(0), 9);
+        due("the tenth", x.enters(0, 0, 0, 10, 1), 9);
         no(x, "NO ahead of FULL", p -> p.enters(0, 0, 0, 24, 2));
         no(x, "an empty LINE ahead of FULL", p -> p.enters(1, 0, 0, 100, 2));
     }
@@ -338,6 +370,8 @@ public final class PromiseTest {
         due("another VOICE", x.sounds(1, 7), -1000);
         x.sets(0, 0);
         due("by HEAD as it is now", x.sounds(2, 7), -2);
+        due("the uppermost VOICE", x.sounds(0, 0), -1000);
+        due("the lowest VOICE", x.sounds(3, 0), -1000);
         due("that is no refusal", x.told(0), 0);
         refused(x, "sounds(4, 0)", p -> p.sounds(4, 0), -2000, 0);
         refused(x, "sounds(-1, 0)", p -> p.sounds(-1, 0), -2000, 0);
@@ -401,6 +435,31 @@ public final class PromiseTest {
         due("3 to 3", x.faults(1, 2, 2), 0);
         // VOICE 0 from TICK 1 on: 19 19 17 21; LOWER 10 10 8 12: at TICK 3 17 over 12, at 2 19 over 8
         due("against each other", x.faults(0, 3, 2), 0);
+        parallel("up together", new int[] {17, 18}, new int[] {10, 11}, 1);
+        parallel("up, 4 and 11", new int[] {14, 22}, new int[] {10, 11}, 1);
+        parallel("down, 7 and 0", new int[] {20, 12}, new int[] {13, 12}, 1);
+        parallel("one stays, one rises", new int[] {10, 17}, new int[] {3, 3}, 0);
+        parallel("one stays, one falls", new int[] {17, 10}, new int[] {3, 3}, 0);
+        parallel("one stays, the other falls", new int[] {17, 17}, new int[] {10, 3}, 0);
+        parallel("one stays, the other rises", new int[] {17, 17}, new int[] {3, 10}, 0);
+        parallel("one rises, one falls", new int[] {14, 20}, new int[] {14, 13}, 0);
+        parallel("one falls, one rises", new int[] {20, 14}, new int[] {13, 14}, 0);
+        parallel("0, then 4", new int[] {17, 22}, new int[] {10, 11}, 0);
+        parallel("both stay", new int[] {17, 17}, new int[] {10, 10}, 0);
+    }
+
+    private static void parallel(String how, int[] above, int[] below, int want) {
+        FuguePlan x = withLine(above[0], 1, above[1], 1);
+        notes(x, 1, below[0], 1, below[1], 1);
+        x.enters(0, 0, 0, 1, 1);
+        x.enters(1, 0, 0, 1, 2);
+        due(how, x.faults(0, 1, 2), want);
+        due(how, x.faults(1, 0, 2), want);
+        x = withLine(above[1], 1);
+        notes(x, 1, below[0], 1, below[1], 1);
+        x.enters(0, 0, 0, 2, 1);
+        x.enters(1, 0, 0, 1, 2);
+        due("one not sounding ahead", x.faults(0, 1, 2), 0);
     }
 
     private static void promise15All() {
@@ -416,6 +475,9 @@ public final class PromiseTest {
         for (int what = 0; what < 6; what++) due("all(" + what + ")", x.all(what), more[what]);
         x.enters(0, 4, 0, 199, 2);
         due("the TICK behind the last", x.all(4), 207);
+        x = withLine(9, 1);
+        for (int v = 0; v < 4; v++) x.enters(0, 0, 0, 0, v);
+        due("all at TICK 0", x.all(5), 4);
         bad(x, "all(6)", p -> p.all(6));
         bad(x, "all(-1)", p -> p.all(-1));
     }
@@ -451,6 +513,50 @@ public final class PromiseTest {
         due("the pair", x.first(2), 2);
         x.leaves(0);
         due("the pair", x.first(2), 1);
+        x = withLine(10, 1);
+        for (int v = 0; v < 4; v++) x.enters(0, 0, v == 3 ? 1 : 0, 0, v);
+        // at TICK 0: CLASHES of 0, 1, 2 with 3, MOVED by 1
+        due("TICK 0", x.first(0), 0);
+        due("the pair", x.first(2), 3);
+        x.leaves(3);
+        x.leaves(0);
+        x.enters(0, 0, 2, 0, 0);
+        x.enters(0, 0, 1, 0, 3);
+        // ENTRIES by MOVE: 0, 0, 2, 1 in VOICES 1, 2, 0, 3: CLASHES of 0 and 3, 1 and 3, 2 and 3
+        x.leaves(0);
+        x.enters(0, 0, 7, 0, 1);
+        // 0, 2, 1, 7: CLASHES of 0 and 2, 1 and 2, and 3 over 2: 6
+        due("the pair", x.first(2), 2);
+        x.leaves(0);
+        x.enters(0, 0, 8, 0, 2);
+        // 2, 1, 7, 8 in VOICES 0, 3, 1, 2
+        due("the pair", x.first(2), 1);
+        x.leaves(1);
+        // 2, 7, 8: 2 over 7 is 2 left over, 2 over 8 is 1, a CLASH; 7 over 8 is 6
+        due("the pair", x.first(2), 2);
+        x.leaves(0);
+        x.enters(0, 0, 9, 0, 0);
+        x.enters(0, 0, 13, 0, 3);
+        x.leaves(0);
+        x.enters(0, 0, 13, 0, 1);
+        // 8, 9, 13, 13 in VOICES 2, 0, 3, 1: CLASHES of 9 over 8, of 9 over 13 (3 left over), not of 8 over 13 (2)
+        due("the pair", x.first(2), 1);
+        x.leaves(0);
+        due("the pair", x.first(2), 1);
+        x.enters(0, 0, 13, 0, 2);
+        x.leaves(0);
+        // 13 in three VOICES: none; then 14 over 13
+        due("none", x.first(0), -1);
+        x.enters(0, 0, 14, 0, 0);
+        due("the pair", x.first(2), 3);
+        x.leaves(3);
+        x.enters(0, 0, 13, 1, 0);
+        x.leaves(0);
+        x.enters(0, 0, 14, 1, 3);
+        // ENTRIES 13, 13 at TICK 0, 13, 14 at TICK 1
+        x.sets(2, 1);
+        due("the TICK", x.first(0), 1);
+        due("the pair", x.first(2), 23);
     }
 
     private static void promise17Stretto() {
@@ -528,9 +634,32 @@ public final class PromiseTest {
         due("no lesser FORM fits by DELAY 1", fits, 0);
         due("the DELAY", x.closest(0, 0), 1);
         due("it FITS", x.stretto(0, x.closest(0, 1), x.closest(0, 2) - 21, 1, 3), 1);
+        int other = 0;
+        for (int seed = 0; seed < 40; seed++) other += closestIsTheLeast(seed) ? 1 : 0;
+        due("PLAIN is not always the closest", other > 0 ? 1 : 0, 1);
         bad(x, "closest(4, 0)", p -> p.closest(4, 0));
         bad(x, "closest(0, 3)", p -> p.closest(0, 3));
         bad(x, "closest(0, -1)", p -> p.closest(0, -1));
+    }
+
+    /** Looks through all STRETTOS; whether the FORM is not PLAIN. */
+    private static boolean closestIsTheLeast(int seed) {
+        FuguePlan x = new FuguePlan();
+        x.draw(0, seed, 10);
+        x.sets(2, 1);
+        for (int d = 1; d < x.line(0, 0); d++) {
+            for (int f = 0; f < 5; f++) {
+                for (int size = 0; size <= 21; size++) {
+                    boolean below = (x.strettos(0, f, -size) >> d & 1) == 1;
+                    if (!below && (x.strettos(0, f, size) >> d & 1) == 0) continue;
+                    due("DELAY of SEED " + seed, x.closest(0, 0), d);
+                    due("FORM of SEED " + seed, x.closest(0, 1), f);
+                    due("MOVE of SEED " + seed, x.closest(0, 2), 21 + (below ? -size : size));
+                    return f > 0;
+                }
+            }
+        }
+        return false;
     }
 
     private static void promise20Inverted() {
@@ -607,16 +736,28 @@ public final class PromiseTest {
         due("of like ones the least", x.best(4, 0), 123);
         due("no FAULTS", x.best(4, 1), 0);
         x.draw(1, 1234, 9);
-        int[] rows = {12, 21, 102, 120, 201, 210};
-        int least = rows[0];
-        for (int row : rows) {
-            if (x.order(3, row) < x.order(3, least)) least = row;
+        bestIsTheLeast(x, 3, 12, 21, 102, 120, 201, 210);
+        for (int seed = 0; seed < 60; seed++) {
+            x.draw(0, seed, 4);
+            x.draw(1, seed + 1000, 10);
+            x.sets(2, 1);
+            bestIsTheLeast(x, 2, 1, 10);
+            bestIsTheLeast(x, 3, 12, 21, 102, 120, 201, 210);
+            bestIsTheLeast(x, 4, 123, 132, 213, 231, 312, 321, 1023, 1032, 1203, 1230, 1302, 1320,
+                    2013, 2031, 2103, 2130, 2301, 2310, 3012, 3021, 3102, 3120, 3201, 3210);
         }
-        due("best(3, 0)", x.best(3, 0), least);
-        due("best(3, 1)", x.best(3, 1), x.order(3, least));
         bad(x, "v 1", p -> p.best(1, 0));
         bad(x, "v 5", p -> p.best(5, 0));
         bad(x, "what -1", p -> p.best(2, -1));
+    }
+
+    private static void bestIsTheLeast(FuguePlan x, int v, int... rows) {
+        int least = rows[0];
+        for (int row : rows) {
+            if (x.order(v, row) < x.order(v, least)) least = row;
+        }
+        due("best(" + v + ", 0)", x.best(v, 0), least);
+        due("best(" + v + ", 1)", x.best(v, 1), x.order(v, least));
     }
 
     private static void promise24Lays() {
@@ -791,19 +932,23 @@ public final class PromiseTest {
         due("MOVE and 21", x.entry(0, 5), 21);
         due("blanks ahead of -", reads(x, "e0 1   -21 190 3;"), 1);
         due("MOVE and 21", x.entry(1, 5), 0);
+        due("values from 0 on", reads(x, "h0;h1;t0;t1;m1;m2;k0;"), 7);
+        for (int n = 0; n < 40; n++) due("again and again", reads(x, "k 1 2 3 4 5;l2:1 1,2 2,3 3;"), 2);
         due("VISITS are these alone", reads(x, "k 1 2 3 4 5;k 5 6;"), 2);
         due("told(9)", x.told(9), 2);
     }
 
     private static void readsFault() {
         String[] texts = {"", "  ", "x", "h", "h ", "h1", "h1;x", "h 1 2;", "h-1;", "h1234;", "h 01234", "h1;h 1;  k", "l;", "l0:;",
-            "l0:1;", "l0:1 1,;", "l0:1 1 1;", "l0,1 1;", "l0:123;", "l0:1234 1;", "l0:1 1234", "e0 0 -", "e0 0 - 7 0 0;",
-            "e0 0 --7 0 0;", "e0 0 -1234 0 0;", "e0 0 -7-8 0;", "e0-1 0 0 0;", "e0 0 1 2;", "e0 0 1 2 3 4;", "e0 0 1234 5 6;", "k -1;",
-            "k 1,2;", "k 5000;", "k1 2", "H1;", "h1;;", "h1:", "\t", "l0:1 1;e0 0 0 0 00000;", "e0 0 -12a", "e0 0 -1234", "h 1a;"};
+                "l0:1;", "l0:1 1,;", "l0:1 1 1;", "l0,1 1;", "l0:123;", "l0:1234 1;", "l0:1 1234", "e0 0 -", "e0 0 - 7 0 0;",
+                "e0 0 --7 0 0;", "e0 0 -1234 0 0;", "e0 0 -7-8 0;", "e0-1 0 0 0;", "e0 0 1 2;", "e0 0 1 2 3 4;", "e0 0 1234 5 6;", "k -1;",
+                "l-1;", "l0:-1 1;", "l0:1-1;", "e-1 0 0 0 0;", "e0 0 0-1 0;", "e0 0 0 0-1;", "t-1;", "m-1;",
+                "k 1,2;", "k 5000;", "k1 2", "H1;", "h1;;", "h1:", "\t", "l0:1 1;e0 0 0 0 00000;", "e0 0 -12a", "e0 0 -1234", "h 1a;"};
         int[] faults = {0, 2, 0, 1, 2, 2, 3, 4, 1, 1, 2, 10, 1, 3,
-            4, 7, 7, 2, 6, 3, 5, 6, 6,
-            6, 5, 7, 2, 8, 11, 5, 2,
-            3, 2, 4, 0, 3, 2, 0, 16, 8, 5, 3};
+                4, 7, 7, 2, 6, 3, 5, 6, 6,
+                6, 5, 7, 2, 8, 11, 5, 2,
+                1, 3, 4, 1, 6, 8, 1, 1,
+                3, 2, 4, 0, 3, 2, 0, 16, 8, 5, 3};
         for (int i = 0; i < texts.length; i++) {
             FuguePlan x = new FuguePlan();
             due("reads \"" + texts[i] + "\"", reads(x, texts[i]), -10 - faults[i]);
