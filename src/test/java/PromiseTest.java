@@ -1,10 +1,7 @@
 import java.util.function.ToIntFunction;
 
 /** One method a promise: ordinary inputs, the edges that the document names, wrong inputs; answers worked out by hand. */
-public final class PromiseTest {
-    private static int wrong = 0;
-    private static int promise = 0;
-
+public final class PromiseTest extends Checks {
     public static void main(String[] args) {
         promise01NewObject();
         promise02Note();
@@ -41,14 +38,7 @@ public final class PromiseTest {
         promise33Back();
         promise34Told();
         promise35Digest();
-        System.out.println(wrong == 0 ? "all promises hold" : wrong + " answers are not as due");
-        if (wrong != 0) System.exit(1);
-    }
-
-    private static void due(String call, long got, long want) {
-        if (got == want) return;
-        wrong++;
-        System.out.println("promise " + promise + ": " + call + " answered " + got + ", due is " + want);
+        end();
     }
 
     /** A refused call: its answer, one more of its kind, no STATE. */
@@ -99,24 +89,8 @@ public final class PromiseTest {
         return h;
     }
 
-    private static FuguePlan withLine(int... stepsAndTicks) {
-        FuguePlan x = new FuguePlan();
-        notes(x, 0, stepsAndTicks);
-        return x;
-    }
-
-    private static void notes(FuguePlan x, int l, int... stepsAndTicks) {
-        for (int i = 0; i + 1 < stepsAndTicks.length; i += 2) x.note(l, stepsAndTicks[i], stepsAndTicks[i + 1]);
-    }
-
-    private static int reads(FuguePlan x, String text) {
-        x.clear();
-        for (int i = 0; i < text.length(); i++) x.type(text.charAt(i));
-        return x.reads();
-    }
-
     private static void promise01NewObject() {
-        promise = 1;
+        says("promise 1");
         FuguePlan x = new FuguePlan();
         int[] fresh = {0, 0, 0, 0, 0, 3, 0, 4, 0, 0, 0};
         for (int i = 0; i < 11; i++) due("told(" + i + ")", x.told(i), fresh[i]);
@@ -130,7 +104,7 @@ public final class PromiseTest {
     }
 
     private static void promise02Note() {
-        promise = 2;
+        says("promise 2");
         FuguePlan x = new FuguePlan();
         leavesState(x, "note(3, 0, 1)", p -> p.note(3, 0, 1), 0);
         leavesState(x, "note(3, 27, 4)", p -> p.note(3, 27, 4), 1);
@@ -156,7 +130,7 @@ public final class PromiseTest {
     }
 
     private static void promise03Drop() {
-        promise = 3;
+        says("promise 3");
         FuguePlan x = withLine(1, 1, 2, 2, 3, 3);
         bad(x, "drop(0, 3)", p -> p.drop(0, 3));
         bad(x, "drop(0, -1)", p -> p.drop(0, -1));
@@ -176,7 +150,7 @@ public final class PromiseTest {
     }
 
     private static void promise04Empties() {
-        promise = 4;
+        says("promise 4");
         FuguePlan x = withLine(1, 1, 2, 2);
         bad(x, "empties(-1)", p -> p.empties(-1));
         bad(x, "empties(4)", p -> p.empties(4));
@@ -192,7 +166,7 @@ public final class PromiseTest {
     }
 
     private static void promise05Draw() {
-        promise = 5;
+        says("promise 5");
         FuguePlan x = withLine(1, 1, 2, 2);
         // X 12345: TICKS 12345 / 1024 = 12, 12 by 4 left over 0, and 1.
         leavesState(x, "draw(0, 0, 1)", p -> p.draw(0, 0, 1), 1);
@@ -215,7 +189,7 @@ public final class PromiseTest {
     }
 
     private static void promise06Sets() {
-        promise = 6;
+        says("promise 6");
         FuguePlan x = new FuguePlan();
         leavesState(x, "sets(0, 10)", p -> p.sets(0, 10), 3);
         leavesState(x, "sets(1, 6)", p -> p.sets(1, 6), 0);
@@ -230,7 +204,7 @@ public final class PromiseTest {
     }
 
     private static void promise07NoteOf() {
-        promise = 7;
+        says("promise 7");
         FuguePlan x = withLine(4, 2, 11, 3, 5, 1, 4, 4);
         due("STEP", x.noteOf(0, 1, 0), 11);
         due("TICKS", x.noteOf(0, 1, 1), 3);
@@ -255,7 +229,7 @@ public final class PromiseTest {
     }
 
     private static void promise08Line() {
-        promise = 8;
+        says("promise 8");
         FuguePlan x = withLine(4, 2, 11, 3, 0, 1);
         int[] want = {6, 3, 0, 11, 0};
         int[] empty = {0, 0, -1, -1, 0};
@@ -277,7 +251,7 @@ public final class PromiseTest {
     }
 
     private static void promise09Step() {
-        promise = 9;
+        says("promise 9");
         FuguePlan x = withLine(4, 1, 6, 2, 1, 1);
         int[][] forms = {{4, 6, 6, 1}, {7, 10, 10, 5}, {4, 2, 2, 7}, {1, 6, 6, 4}, {4, 4, 6, 6, 6, 6, 1, 1}};
         for (int f = 0; f < 5; f++) {
@@ -296,7 +270,7 @@ public final class PromiseTest {
     }
 
     private static void promise10Enters() {
-        promise = 10;
+        says("promise 10");
         FuguePlan x = withLine(4, 2, 6, 2);
         leavesState(x, "enters(0, 0, 0, 10, 1)", p -> p.enters(0, 0, 0, 10, 1), 0);
         no(x, "from the last TICK on", p -> p.enters(0, 0, 0, 13, 1));
@@ -308,9 +282,6 @@ public final class PromiseTest {
         due("another VOICE", x.enters(0, 0, 0, 10, 0), 3);
         due("the edges", x.enters(0, 4, -21, 199, 3), 4);
         due("the edges", x.enters(0, 3, 21, 0, 3), 5);
-        int[][] refused = {{4, 0, 0, 0, 2}, {-1, 0, 0, 0, 2}, {0, 5, 0, 0, 2}, {0, -1, 0, 0, 2}, {0, 0, 22, 0, 2},
-                {0, 0, -22, 0, 2}, {0, 0, 0, 200, 2}, {0, 0, 0, -1, 2}, {0, 0, 0, 0, 4}, {0, 0, 0, 0, -1}, {1, 0, 0, 0, 4}};
-        for (int[] r : refused) bad(x, "enters BAD", p -> p.enters(r[0], r[1], r[2], r[3], r[4]));
         for (int e = 6; e < 10; e++) due("enters", x.enters(0, 0, 0, 4 * e, 2), e);
         full(x, "an eleventh", p -> p.enters(0, 0, 0, 100, 2));
         due("the tenth", x.entry(9, 2), 36);
@@ -318,10 +289,13 @@ public final class PromiseTest {
         due("the tenth", x.enters(0, 0, 0, 10, 1), 9);
         no(x, "NO ahead of FULL", p -> p.enters(0, 0, 0, 24, 2));
         no(x, "an empty LINE ahead of FULL", p -> p.enters(1, 0, 0, 100, 2));
+        int[][] refused = {{4, 0, 0, 0, 2}, {-1, 0, 0, 0, 2}, {0, 5, 0, 0, 2}, {0, -1, 0, 0, 2}, {0, 0, 22, 0, 2},
+                {0, 0, -22, 0, 2}, {0, 0, 0, 200, 2}, {0, 0, 0, -1, 2}, {0, 0, 0, 0, 4}, {0, 0, 0, 0, -1}, {1, 0, 0, 0, 4}};
+        for (int[] r : refused) bad(withLine(4, 2), "enters BAD", p -> p.enters(r[0], r[1], r[2], r[3], r[4]));
     }
 
     private static void promise11Leaves() {
-        promise = 11;
+        says("promise 11");
         FuguePlan x = withLine(4, 2);
         for (int v = 0; v < 3; v++) x.enters(0, v, v, v, v);
         bad(x, "leaves(3)", p -> p.leaves(3));
@@ -339,7 +313,7 @@ public final class PromiseTest {
     }
 
     private static void promise12Entry() {
-        promise = 12;
+        says("promise 12");
         FuguePlan x = withLine(4, 2, 5, 3);
         x.enters(0, 4, -21, 7, 2);
         x.enters(0, 3, 5, 0, 2);
@@ -356,7 +330,7 @@ public final class PromiseTest {
     }
 
     private static void promise13Sounds() {
-        promise = 13;
+        says("promise 13");
         FuguePlan x = withLine(4, 2, 5, 3);
         x.enters(0, 1, -10, 7, 2);
         x.enters(0, 0, 0, 12, 2);
@@ -389,7 +363,7 @@ public final class PromiseTest {
     }
 
     private static void promise14Faults() {
-        promise = 14;
+        says("promise 14");
         FuguePlan x = faulty();
         // CLASS 1 0 0 3; METER 4 divides TICK 4; from TICK 5 to 6 both rise from 0 to 0.
         due("CLASH", x.faults(0, 1, 0), 1);
@@ -463,7 +437,7 @@ public final class PromiseTest {
     }
 
     private static void promise15All() {
-        promise = 15;
+        says("promise 15");
         FuguePlan x = new FuguePlan();
         for (int what = 0; what < 6; what++) due("all(" + what + ") of none", x.all(what), 0);
         x = faulty();
@@ -483,7 +457,7 @@ public final class PromiseTest {
     }
 
     private static void promise16First() {
-        promise = 16;
+        says("promise 16");
         FuguePlan x = faulty();
         due("the TICK", x.first(0), 4);
         due("the kind", x.first(1), 0);
@@ -560,7 +534,7 @@ public final class PromiseTest {
     }
 
     private static void promise17Stretto() {
-        promise = 17;
+        says("promise 17");
         FuguePlan x = withLine(10, 1, 12, 1, 14, 1, 16, 1, 18, 1);
         // by d 1 PLAIN MOVED 0: UPPER 12 14 16 18 over 10 12 14 16: CLASS 2 always
         int[] want = {0, 0, 0, 1};
@@ -589,7 +563,7 @@ public final class PromiseTest {
     }
 
     private static void promise18Strettos() {
-        promise = 18;
+        says("promise 18");
         FuguePlan x = withLine(10, 1, 12, 1, 14, 1, 16, 1, 18, 1);
         // MOVED 0: d 1 CLASS 2, d 2 CLASS 4 (PARALLEL at 3, 4), d 3 CLASS 6 (CLASH at 4), d 4 CLASS 1 (CLASH at 4)
         due("strettos(0, 0, 0)", x.strettos(0, 0, 0), 2);
@@ -611,7 +585,7 @@ public final class PromiseTest {
     }
 
     private static void promise19Closest() {
-        promise = 19;
+        says("promise 19");
         FuguePlan x = new FuguePlan();
         for (int what = 0; what < 3; what++) due("an empty LINE", x.closest(0, what), -1);
         x.note(0, 10, 1);
@@ -644,11 +618,10 @@ public final class PromiseTest {
 
     /** Looks through all STRETTOS; whether the FORM is not PLAIN. */
     private static boolean closestIsTheLeast(int seed) {
-        FuguePlan x = new FuguePlan();
-        x.draw(0, seed, 10);
-        x.sets(2, 1);
-        for (int d = 1; d < x.line(0, 0); d++) {
+        int length = drawn(seed).line(0, 0);
+        for (int d = 1; d < length; d++) {
             for (int f = 0; f < 5; f++) {
+                FuguePlan x = drawn(seed);
                 for (int size = 0; size <= 21; size++) {
                     boolean below = (x.strettos(0, f, -size) >> d & 1) == 1;
                     if (!below && (x.strettos(0, f, size) >> d & 1) == 0) continue;
@@ -662,8 +635,15 @@ public final class PromiseTest {
         return false;
     }
 
+    private static FuguePlan drawn(int seed) {
+        FuguePlan x = new FuguePlan();
+        x.draw(0, seed, 10);
+        x.sets(2, 1);
+        return x;
+    }
+
     private static void promise20Inverted() {
-        promise = 20;
+        says("promise 20");
         FuguePlan x = withLine(10, 2, 12, 2);
         notes(x, 1, 8, 2, 10, 3);
         // LINE 1 MOVED by n over LINE 0: n - 2 at 0 to 3; both rise at 2
@@ -685,7 +665,7 @@ public final class PromiseTest {
     }
 
     private static void promise21Inversions() {
-        promise = 21;
+        says("promise 21");
         FuguePlan x = withLine(10, 2, 12, 2);
         notes(x, 1, 8, 2, 10, 3);
         int want = 0;
@@ -701,7 +681,7 @@ public final class PromiseTest {
     }
 
     private static void promise22Order() {
-        promise = 22;
+        says("promise 22");
         FuguePlan x = new FuguePlan();
         no(x, "LINE 0 is empty", p -> p.order(2, 10));
         bad(x, "BAD ahead of NO", p -> p.order(2, 11));
@@ -726,7 +706,7 @@ public final class PromiseTest {
     }
 
     private static void promise23Best() {
-        promise = 23;
+        says("promise 23");
         FuguePlan x = new FuguePlan();
         no(x, "LINE 0 is empty", p -> p.best(2, 0));
         bad(x, "BAD ahead of NO", p -> p.best(2, 2));
@@ -738,6 +718,7 @@ public final class PromiseTest {
         x.draw(1, 1234, 9);
         bestIsTheLeast(x, 3, 12, 21, 102, 120, 201, 210);
         for (int seed = 0; seed < 60; seed++) {
+            x = new FuguePlan();
             x.draw(0, seed, 4);
             x.draw(1, seed + 1000, 10);
             x.sets(2, 1);
@@ -761,7 +742,7 @@ public final class PromiseTest {
     }
 
     private static void promise24Lays() {
-        promise = 24;
+        says("promise 24");
         FuguePlan x = new FuguePlan();
         no(x, "LINE 0 is empty", p -> p.lays(2));
         bad(x, "v 1", p -> p.lays(1));
@@ -798,7 +779,7 @@ public final class PromiseTest {
     }
 
     private static void promise25Way() {
-        promise = 25;
+        says("promise 25");
         FuguePlan x = new FuguePlan();
         int[][] want = {{0, 0, 0}, {0, 11, 1}, {11, 0, 1}, {23, 12, 1}, {0, 6, 6}, {0, 7, 5}, {0, 12, 1}, {0, 21, 2},
                 {21, 0, 2}, {0, 22, 3}, {0, 20, 3}, {0, 19, 4}, {0, 14, 3}, {0, 15, 4}, {5, 14, 2}, {12, 18, 6}, {0, 18, 5}};
@@ -808,7 +789,7 @@ public final class PromiseTest {
     }
 
     private static void promise26Next() {
-        promise = 26;
+        says("promise 26");
         FuguePlan x = new FuguePlan();
         // three on in a circle is three by the other circle, too: 12 to 18 is 6 by 13, and by 0, 21; 12 to 17 is 5 by 3, 5
         int[][] want = {{3, 3, -1}, {0, 6, 1}, {0, 7, 11}, {6, 0, 5}, {0, 12, 12}, {0, 21, 21}, {0, 13, 1}, {21, 0, 0},
@@ -819,7 +800,7 @@ public final class PromiseTest {
     }
 
     private static void promise27Visits() {
-        promise = 27;
+        says("promise 27");
         FuguePlan x = new FuguePlan();
         leavesState(x, "visits(0), HOME", p -> p.visits(0), 1);
         leavesState(x, "visits(23)", p -> p.visits(23), 2);
@@ -833,7 +814,7 @@ public final class PromiseTest {
     }
 
     private static void promise28Skips() {
-        promise = 28;
+        says("promise 28");
         FuguePlan x = new FuguePlan();
         no(x, "it is not there", p -> p.skips(0));
         bad(x, "skips(24)", p -> p.skips(24));
@@ -849,7 +830,7 @@ public final class PromiseTest {
     }
 
     private static void promise29Path() {
-        promise = 29;
+        says("promise 29");
         FuguePlan x = new FuguePlan();
         due("no VISITS", x.path(-1), 0);
         due("not so many", x.path(0), -5);
@@ -875,7 +856,7 @@ public final class PromiseTest {
     }
 
     private static void promise30Type() {
-        promise = 30;
+        says("promise 30");
         FuguePlan x = new FuguePlan();
         due("type(0)", x.type(0), 1);
         due("type(127)", x.type(127), 2);
@@ -888,7 +869,7 @@ public final class PromiseTest {
     }
 
     private static void promise31Clear() {
-        promise = 31;
+        says("promise 31");
         FuguePlan x = new FuguePlan();
         due("an empty one", x.clear(), 0);
         x.type('h');
@@ -902,7 +883,7 @@ public final class PromiseTest {
     }
 
     private static void promise32Reads() {
-        promise = 32;
+        says("promise 32");
         readsAreDone();
         readsFault();
         readsStop();
@@ -933,7 +914,8 @@ public final class PromiseTest {
         due("blanks ahead of -", reads(x, "e0 1   -21 190 3;"), 1);
         due("MOVE and 21", x.entry(1, 5), 0);
         due("values from 0 on", reads(x, "h0;h1;t0;t1;m1;m2;k0;"), 7);
-        for (int n = 0; n < 40; n++) due("again and again", reads(x, "k 1 2 3 4 5;l2:1 1,2 2,3 3;"), 2);
+        x = new FuguePlan();
+        for (int n = 0; n < 12; n++) due("again and again", reads(x, "k 1 2 3 4 5;l2:1 1,2 2,3 3;"), 2);
         due("VISITS are these alone", reads(x, "k 1 2 3 4 5;k 5 6;"), 2);
         due("told(9)", x.told(9), 2);
     }
@@ -993,7 +975,7 @@ public final class PromiseTest {
     }
 
     private static void promise33Back() {
-        promise = 33;
+        says("promise 33");
         FuguePlan x = new FuguePlan();
         no(x, "none", p -> p.back());
         x.note(0, 5, 1);
@@ -1027,7 +1009,7 @@ public final class PromiseTest {
     }
 
     private static void promise34Told() {
-        promise = 34;
+        says("promise 34");
         FuguePlan x = new FuguePlan();
         bad(x, "told(11)", p -> p.told(11));
         bad(x, "told(-1)", p -> p.told(-1));
@@ -1045,7 +1027,7 @@ public final class PromiseTest {
     }
 
     private static void promise35Digest() {
-        promise = 35;
+        says("promise 35");
         long h = 2267;
         int[] fresh = {0, 0, 0, 0, 0, 3, 0, 4, 0, 0, 0};
         for (int v : fresh) h = 31 * h + v;
