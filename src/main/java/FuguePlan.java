@@ -206,7 +206,7 @@ public final class FuguePlan {
     // ---- orders of voices
 
     public int order(int v, int row) {
-        if (!areRowVoices(v) || !takesRow(v, row)) return refused(BAD);
+        if (!takesRow(v, row)) return refused(BAD);
         if (plan.lines[0].isEmpty()) return refused(NO);
         return rowFaults(v);
     }
@@ -259,7 +259,7 @@ public final class FuguePlan {
             refused(BAD);
             return BAD_PLACE;
         }
-        if (i >= plan.visitCount) return NO_SUCH_VISIT;
+        if (i >= plan.visitCount || i >= MOST_VISITS) return NO_SUCH_VISIT;
         tour.find(plan);
         return i == NONE ? tour.length : tour.best[i];
     }
@@ -392,7 +392,7 @@ public final class FuguePlan {
     private int closestStretto(int l) {
         plan.form(upper, l, PLAIN, 0);
         upper.place(0, 0);
-        int length = plan.lines[l].length();
+        int length = plan.lengthOf(l, PLAIN);
         for (int d = 1; d < length; d++) {
             for (int f = 0; f < FORMS; f++) {
                 for (int n = 0; n < MOVES; n++) {
@@ -425,7 +425,7 @@ public final class FuguePlan {
 
     /** Takes an ORDER apart into its figures; false if it is none. */
     private boolean takesRow(int v, int number) {
-        if (number < 0) return false;
+        if (!areRowVoices(v) || number < 0) return false;
         int left = number;
         int seen = 0;
         for (int k = v - 1; k >= 0; k--) {
@@ -476,6 +476,7 @@ public final class FuguePlan {
 
     /** Makes the first n of a row of unlike numbers their next greater order; false if there is none. */
     private static boolean toNextRow(int[] row, int n) {
+        if (n > row.length) return false;
         int i = n - 2;
         while (i >= 0 && row[i] > row[i + 1]) i--;
         if (i < 0) return false;
@@ -619,13 +620,13 @@ public final class FuguePlan {
 
         int leastStep() {
             int least = isEmpty() ? NONE : stepOf(0);
-            for (int i = 1; i < count; i++) least = Math.min(least, steps[i]);
+            for (int i = 1; i < count; i++) least = Math.min(least, stepOf(i));
             return least;
         }
 
         int greatestStep() {
             int greatest = isEmpty() ? NONE : stepOf(0);
-            for (int i = 1; i < count; i++) greatest = Math.max(greatest, steps[i]);
+            for (int i = 1; i < count; i++) greatest = Math.max(greatest, stepOf(i));
             return greatest;
         }
 
@@ -988,7 +989,7 @@ public final class FuguePlan {
         }
 
         void gather(Plan plan, Entries entries) {
-            count = entries.count;
+            count = Math.min(entries.count, MOST_ENTRIES);
             for (int e = 0; e < count; e++) {
                 Entry entry = entries.items[e];
                 plan.form(items[e], entry.line, entry.form, entry.move);
@@ -1065,7 +1066,7 @@ public final class FuguePlan {
         int length;
 
         void find(Plan plan) {
-            int count = plan.visitCount;
+            int count = Math.min(plan.visitCount, MOST_VISITS);
             sortVisits(plan.toVisit, count);
             length = FAR;
             boolean more = true;
@@ -1248,7 +1249,7 @@ public final class FuguePlan {
         }
 
         private void skipBlanks() {
-            while (place < length && bytes[place] == BLANK) place++;
+            while (place < length && byteHere() == BLANK) place++;
         }
 
         private static boolean isFigure(int c) {

@@ -6,23 +6,18 @@ import java.lang.reflect.Modifier;
 import java.nio.file.Files;
 import java.nio.file.Path;
 import java.util.ArrayList;
+import java.util.Collections;
 import java.util.HashSet;
 import java.util.List;
+import java.util.Map;
 import java.util.Set;
+import java.util.TreeMap;
 import java.util.TreeSet;
 import java.util.regex.Matcher;
 import java.util.regex.Pattern;
 
 /** The public face, and what LANGUAGE.md rules out, as far as reflection and a look at the text can tell. */
 public final class LanguageTest {
-    private static final String[] FACE = {
-        "int note(int,int,int)", "int drop(int,int)", "int empties(int)", "int draw(int,int,int)", "int sets(int,int)",
-        "int noteOf(int,int,int)", "int line(int,int)", "int step(int,int,int,int)", "int enters(int,int,int,int,int)",
-        "int leaves(int)", "int entry(int,int)", "int sounds(int,int)", "int faults(int,int,int)", "int all(int)",
-        "int first(int)", "int stretto(int,int,int,int,int)", "long strettos(int,int,int)", "int closest(int,int)",
-        "int inverted(int,int,int,int)", "int inversions(int,int)", "int order(int,int)", "int best(int,int)", "int lays(int)",
-        "int way(int,int)", "int next(int,int)", "int visits(int)", "int skips(int)", "int path(int)", "int type(int)",
-        "int clear()", "int reads()", "int back()", "int told(int)", "long digest()"};
     private static final Pattern RULED_OUT = Pattern.compile(
         "\\b(throw|throws|try|catch|synchronized|assert|import|package|float|double|equals|hashCode|Exact|protected|volatile"
         + "|native|var|yield|sealed|goto)\\b|->|::|@|\\bnew \\w+\\([^)]*\\) \\{|Exact\\(");
@@ -30,11 +25,13 @@ public final class LanguageTest {
     private static final int MOST_CALLS_DEEP = 8;
     private static int wrong = 0;
 
-    public static void main(String[] args) throws IOException {
-        face();
+    public static void main(String[] args) throws IOException, IllegalAccessException {
+        Face face = Face.ofDocument();
+        face(face);
         for (Class<?> c : classes()) shape(c);
         String source = Files.readString(Path.of("src/main/java/FuguePlan.java"));
         String code = source.replaceAll("(?s)/\\*.*?\\*/", "").replaceAll("//[^\n]*", "");
+        declared(face, code);
         text(source, code);
         depth(methods(code));
         System.out.println(wrong == 0 ? "the language is kept to" : wrong + " breaches");
@@ -53,7 +50,7 @@ public final class LanguageTest {
         return out;
     }
 
-    private static void face() {
+    private static void face(Face face) throws IllegalAccessException {
         int modifiers = FuguePlan.class.getModifiers();
         due(Modifier.isPublic(modifiers) && Modifier.isFinal(modifiers), "public final class");
         Set<String> faces = new TreeSet<>();
@@ -66,7 +63,11 @@ public final class LanguageTest {
             faces.add(m.getReturnType().getName() + " " + m.getName() + "(" + args + ")");
             names.add(m.getName());
         }
-        due(faces.equals(new TreeSet<>(List.of(FACE))), "the methods: " + faces);
+        Set<String> wanted = new TreeSet<>();
+        for (Face.Method m : face.methods) {
+            wanted.add(m.type() + " " + m.name() + "(" + String.join(",", Collections.nCopies(m.given().size(), "int")) + ")");
+        }
+        due(wanted.size() == 34 && faces.equals(wanted), "the methods: " + faces);
         for (Class<?> c : classes()) {
             for (Method m : c.getDeclaredMethods()) {
                 due(c == FuguePlan.class && m.getModifiers() == Modifier.PUBLIC || !names.contains(m.getName()), "rule 1, a public name: " + m);
@@ -74,11 +75,29 @@ public final class LanguageTest {
         }
         Constructor<?>[] made = FuguePlan.class.getDeclaredConstructors();
         due(made.length == 1 && made[0].getModifiers() == Modifier.PUBLIC && made[0].getParameterCount() == 0, "the constructor");
-        Set<String> open = new TreeSet<>();
+        constants(face);
+    }
+
+    private static void constants(Face face) throws IllegalAccessException {
+        Map<String, Integer> open = new TreeMap<>();
         for (Field f : FuguePlan.class.getDeclaredFields()) {
-            if (!Modifier.isPrivate(f.getModifiers())) open.add(f.getName());
+            if (Modifier.isPrivate(f.getModifiers())) continue;
+            boolean isConstant = f.getModifiers() == (Modifier.PUBLIC | Modifier.STATIC | Modifier.FINAL) && f.getType() == int.class;
+            due(isConstant, "public static final int: " + f);
+            open.put(f.getName(), isConstant ? f.getInt(null) : 0);
         }
-        due(open.equals(Set.of("NONE", "BAD", "NO", "FULL")), "the constants: " + open);
+        due(open.size() == 4 && open.equals(face.constants), "the constants: " + open);
+    }
+
+    /** What the class declares in public is what the document's code block does, word for word, in its order. */
+    private static void declared(Face face, String code) {
+        List<String> wanted = new ArrayList<>();
+        for (Face.Method m : face.methods) wanted.add(m.declared());
+        List<String> found = new ArrayList<>();
+        Matcher m = Pattern.compile("\n    (public (?:int|long) [^;{]*\\)) \\{").matcher(code);
+        while (m.find()) found.add(m.group(1));
+        due(found.equals(wanted), "declared in public: " + found);
+        due(code.contains("\npublic final class FuguePlan {\n") || code.startsWith("public final class FuguePlan {\n"), "the class's first line");
     }
 
     private static void shape(Class<?> c) {
